@@ -6,6 +6,11 @@ public final class AfternoonChange {
 
     private static final int RIDERS = 8, AFTERNOONS = 8, DAYS = 10, STOPS = 10;
     private static final int MONDAY = 0;
+    /**
+     * No day behind this one moves anything: all that is left on seats is left on day 0, each rider changes once at
+     * most (not at all, if he left his), and a day that moves nothing is the last to be ridden.
+     */
+    private static final int LAST_MOVE = 7;
     /** A torn afternoon is its number and this. */
     private static final int TORN = 8;
     /** Bytes from the begin of a rider to that of the next one: four and a semicolon. */
@@ -895,10 +900,8 @@ public final class AfternoonChange {
 
     /** Who is served behind each day by each set of open stops; a set is ridden only once until more is told. */
     private static final class StopSets {
-        /** Days 0 to 7, eight bits for each. */
-        private final long[] early = new long[STOP_SETS];
-        /** Days 8 and 9, eight bits for each. */
-        private final int[] late = new int[STOP_SETS];
+        /** Eight bits for each of days 0 to 7, the last on which anything may move (see LAST_MOVE). */
+        private final long[] served = new long[STOP_SETS];
         /** The telling by which a set was ridden. */
         private final int[] stamps = new int[STOP_SETS];
         private int stamp;
@@ -923,14 +926,13 @@ public final class AfternoonChange {
                 trial.begin();
                 trial.changes = set;
                 trial.go();
-                early[set] = 0;
-                for (int d = 0; d < 8; d++) {
-                    early[set] |= (long) trial.servedOn(d) << 8 * d;
+                served[set] = 0;
+                for (int d = 0; d <= LAST_MOVE; d++) {
+                    served[set] |= (long) trial.servedOn(d) << RIDERS * d;
                 }
-                late[set] = trial.servedOn(8) | trial.servedOn(9) << 8;
                 stamps[set] = stamp;
             }
-            return (day < 8 ? (int) (early[set] >>> 8 * day) : late[set] >> 8 * (day - 8)) & 255;
+            return (int) (served[set] >>> RIDERS * Math.min(day, LAST_MOVE)) & RIDER_SETS - 1;
         }
     }
 

@@ -6,6 +6,9 @@ public final class PromisesTest {
     /** Each needs what the next one has, on the next one's part of the way; the last one finds his in the bag f. */
     private static final String CHAIN = "b02c;c56d;d34e;e89f";
 
+    /** One changes on each of days 0 to 7, the last one first, with the bag a. */
+    private static final String SLOW = "g09h;h09g;g09f;f09e;e09d;d09c;c09b;b09a";
+
     public static void main(String[] args) {
         newObject();
         type();
@@ -288,6 +291,10 @@ public final class PromisesTest {
         Due.is("10 a pair among others", x.torn(0, 1), 1);
         Due.is("10 a whole one beside it", x.torn(0, 0), 0);
         Due.is("10 by days up to it", Due.made("c09d", "d").torn(9, 0), 0);
+        x = Due.made("b09c;e09f;d09c;g09f;h09g", "FC");
+        Due.row("10 two pairs", new int[] {x.torn(0, 0), x.torn(0, 1), x.torn(0, 2), x.torn(0, 3), x.torn(0, 4)},
+            1, 1, 1, 1, 0);
+        Due.row("10 two pairs, the bag", bagOf(x, 0), 1, 3, 4, 7);
     }
 
     private static void bag() {
@@ -318,7 +325,11 @@ public final class PromisesTest {
         AfternoonChange x = Due.made("b09c;c09d;e09e;a09b;f09f", "d");
         x.set(2, 16);
         Due.row("12 gets", new int[] {x.gets(0), x.gets(1), x.gets(2), x.gets(3), x.gets(4)}, 1, 0, 0, NONE, NONE);
-        Due.is("12 gets(5)", x.gets(5), BAD);
+        x = Due.made(SLOW, "a");
+        for (int r = 0; r < 8; r++) {
+            Due.is("12 gets(" + r + ") of many days", x.gets(r), 7 - r);
+        }
+        Due.is("12 gets(8)", x.gets(8), BAD);
         Due.is("12 gets(-1)", x.gets(-1), BAD);
     }
 
@@ -348,8 +359,7 @@ public final class PromisesTest {
         x.set(2, 2);
         Due.is("14 left on a seat is not changed", x.still(), 0);
         Due.is("14 a day behind it is", x.first(0), 1);
-        x = Due.made("d09b;b09c;c09d;d09e;e09f;f09g;g09h", "h");
-        Due.is("14 a change a day", x.still(), 7);
+        Due.is("14 a change a day", Due.made(SLOW, "a").still(), 8);
     }
 
     private static void served() {
@@ -361,6 +371,10 @@ public final class PromisesTest {
         Due.is("15 served(9)", x.served(9), 7);
         x.set(2, 4);
         Due.is("15 one left his", x.served(0), 2);
+        x = Due.made(SLOW, "a");
+        for (int day = 0; day < 10; day++) {
+            Due.is("15 served(" + day + ") of many days", x.served(day), 255 - (255 >> Math.min(day, 7) + 1));
+        }
     }
 
     private static void rings() {
@@ -619,6 +633,13 @@ public final class PromisesTest {
         x = Due.made("c09c", "");
         x.set(2, 1);
         fraction(x, 16, 9, 0, 0, 1);
+        x = Due.made(SLOW, "a");
+        for (int day = 0; day < 10; day++) {
+            for (int r = 0; r < 8; r++) {
+                boolean gets = day >= 7 - r;
+                fraction(x, 6, day, r, gets ? 3 : 0, gets ? 8 : 1);
+            }
+        }
     }
 
     private static void fraction(AfternoonChange x, int c, int day, int rider, long above, long below) {
@@ -839,7 +860,6 @@ public final class PromisesTest {
         Due.is("35 without findings", x.digest(), new AfternoonChange().digest());
         x = Due.made("b09c", "c");
         x.seen(0, 0, 2);
-        // 9 LOTS of 7 have a c or not: servedByDepot() tells of riders to c, f and h, here c alone matters
         long depot = x.depot(7, 9, 0);
         Due.is("35 of one", x.digest(), digestOf(1, 1, 4, 1, 1, 1, 32, 1, -1, -1,
             1, 0, 9, 2, 2, 2, 0, 0, 1, 1, 30, 5, 16,

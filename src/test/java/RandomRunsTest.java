@@ -19,7 +19,20 @@ public final class RandomRunsTest {
         for (int run = 1; run <= 240; run++) {
             new RandomRunsTest(run).go();
         }
+        slowRun();
         Due.end("RandomRunsTest");
+    }
+
+    /** By chance no run has changes on many days, so that all days of digest() differ: this one has. */
+    private static void slowRun() {
+        RandomRunsTest slow = new RandomRunsTest(0);
+        for (char c : "g09h;h09g;g09f;f09e;e09d;d09c;c09b;b09a".toCharArray()) {
+            slow.type(0, c);
+        }
+        slow.type(1, 'a');
+        slow.same("digest()", slow.x.digest(), slow.y.digest());
+        slow.same("set(1, 97)", slow.x.set(1, 97), slow.y.set(1, 97));
+        slow.same("digest()", slow.x.digest(), slow.y.digest());
     }
 
     private void same(String call, long got, long want) {
@@ -75,7 +88,7 @@ public final class RandomRunsTest {
         int bag = random.nextInt(17);
         for (int i = 0; i < bag; i++) {
             char c = letters.charAt(random.nextInt(letters.length()));
-            type(1, random.nextInt(3) == 0 ? Character.toUpperCase(c) : c);
+            type(1, random.nextInt(3) < run % 4 ? Character.toUpperCase(c) : c);
         }
     }
 

@@ -789,7 +789,9 @@ public final class AfternoonChange {
                 int madeBefore = made;
                 boolean isLeft = false;
                 for (int stop = 0; stop < STOPS; stop++) {
-                    isLeft |= leaveAt(stop);
+                    if (leaveAt(stop)) {
+                        isLeft = true;
+                    }
                     if ((changes >> stop & 1) == 1) {
                         changeAt(day, stop);
                     }

@@ -49,22 +49,6 @@ public final class PromisesTest {
         Due.end("PromisesTest");
     }
 
-    private static int[] bagOf(AfternoonChange x, int day) {
-        int[] row = new int[x.bag(day, NONE)];
-        for (int i = 0; i < row.length; i++) {
-            row[i] = x.bag(day, i);
-        }
-        return row;
-    }
-
-    private static int[] itemsOf(AfternoonChange x, int s, int form, int n) {
-        int[] row = new int[n];
-        for (int i = 0; i < n; i++) {
-            row[i] = x.get(s, form, i);
-        }
-        return row;
-    }
-
     private static void newObject() {
         AfternoonChange x = new AfternoonChange();
         Due.is("1 riders", x.count(0), 0);
@@ -267,7 +251,7 @@ public final class PromisesTest {
         x.set(2, 1);
         Due.is("9 what is left is there for one who boards", x.has(0, 1), 2);
         Due.is("9 the one who left it", x.has(0, 0), NONE);
-        Due.row("9 its bag", bagOf(x, 0), 1);
+        Due.row("9 its bag", Due.bagOf(x, 0), 1);
         x = Due.made("c55b;b59c", "");
         x.set(2, 1);
         Due.is("9 who never boards leaves nothing", x.has(9, 0), 2);
@@ -294,7 +278,7 @@ public final class PromisesTest {
         x = Due.made("b09c;e09f;d09c;g09f;h09g", "FC");
         Due.row("10 two pairs", new int[] {x.torn(0, 0), x.torn(0, 1), x.torn(0, 2), x.torn(0, 3), x.torn(0, 4)},
             1, 1, 1, 1, 0);
-        Due.row("10 two pairs, the bag", bagOf(x, 0), 1, 3, 4, 7);
+        Due.row("10 two pairs, the bag", Due.bagOf(x, 0), 1, 3, 4, 7);
     }
 
     private static void bag() {
@@ -303,18 +287,18 @@ public final class PromisesTest {
         Due.is("11 bag(10, 0)", x.bag(10, 0), BAD);
         Due.is("11 bag(0, -2)", x.bag(0, -2), BAD);
         Due.is("11 bag(0, 28)", x.bag(0, 28), BAD);
-        Due.row("11 the one's, then the other one's", bagOf(x, 0), 7, 15, 1, 3);
+        Due.row("11 the one's, then the other one's", Due.bagOf(x, 0), 7, 15, 1, 3);
         Due.is("11 behind its end", x.bag(0, 4), NONE);
         Due.is("11 bag(9, 27)", x.bag(9, 27), NONE);
         x = Due.made("b09c", "accC");
-        Due.row("11 the first whole one", bagOf(x, 0), 0, 2, 10, 1);
+        Due.row("11 the first whole one", Due.bagOf(x, 0), 0, 2, 10, 1);
         x = Due.made("b06c;d07c;e06f", "C");
         x.set(2, 7);
-        Due.row("11 whole, though it was torn; by stops", bagOf(x, 0), 1, 3, 2, 4, 2);
+        Due.row("11 whole, though it was torn; by stops", Due.bagOf(x, 0), 1, 3, 2, 4, 2);
         x = Due.made("b09c;c09d", "d");
-        Due.row("11 day 0", bagOf(x, 0), 2);
-        Due.row("11 day 1", bagOf(x, 1), 1);
-        Due.row("11 day 9", bagOf(x, 9), 1);
+        Due.row("11 day 0", Due.bagOf(x, 0), 2);
+        Due.row("11 day 1", Due.bagOf(x, 1), 1);
+        Due.row("11 day 9", Due.bagOf(x, 9), 1);
         x = Due.made("b09c;b09c;d09e;d09e;e09f;e09f;f09g;f09g", "CEFGAAAAAAAAAAAA");
         x.set(2, 255);
         Due.is("11 28 at most", x.bag(0, NONE), 28);
@@ -787,14 +771,14 @@ public final class PromisesTest {
         for (int[] w : wrong) {
             Due.is("32 copy(0, " + w[0] + ", 1, " + w[1] + ", " + w[2] + ")", x.copy(0, w[0], 1, w[1], w[2]), INDEX);
         }
-        Due.row("32 unchanged", itemsOf(x, 1, 2, 3), 0, 0, 0);
+        Due.row("32 unchanged", Due.itemsOf(x, 1, 2, 3), 0, 0, 0);
         Due.is("32 none, at the ends", x.copy(0, 5, 1, 3, 0), 1);
         Due.is("32 two", x.copy(0, 3, 1, 1, 2), 1);
-        Due.row("32 two are there", itemsOf(x, 1, 2, 3), 0, 13, 14);
+        Due.row("32 two are there", Due.itemsOf(x, 1, 2, 3), 0, 13, 14);
         Due.is("32 onto itself, up", x.copy(0, 0, 0, 1, 4), 1);
-        Due.row("32 as they were", itemsOf(x, 0, 2, 5), 10, 10, 11, 12, 13);
+        Due.row("32 as they were", Due.itemsOf(x, 0, 2, 5), 10, 10, 11, 12, 13);
         Due.is("32 onto itself, down", x.copy(0, 2, 0, 0, 3), 1);
-        Due.row("32 as they were, down", itemsOf(x, 0, 2, 5), 11, 12, 13, 12, 13);
+        Due.row("32 as they were, down", Due.itemsOf(x, 0, 2, 5), 11, 12, 13, 12, 13);
     }
 
     private static void write() {
@@ -812,11 +796,11 @@ public final class PromisesTest {
         Due.is("33 lost", x.write(0, 3), NULL);
         Due.is("33 finding", x.count(8), 1);
         Due.is("33 day 0", x.write(0, 0), 2);
-        Due.row("33 behind day 0", itemsOf(x, 0, 0, 4), 15, 2, 99, 99);
+        Due.row("33 behind day 0", Due.itemsOf(x, 0, 0, 4), 15, 2, 99, 99);
         Due.is("33 day 1", x.write(1, 0), 2);
-        Due.row("33 behind day 1", itemsOf(x, 0, 0, 4), 15, 1, 99, 99);
+        Due.row("33 behind day 1", Due.itemsOf(x, 0, 0, 4), 15, 1, 99, 99);
         Due.is("33 as many as there are items", x.write(9, 1), 1);
-        Due.row("33 one", itemsOf(x, 1, 2, 1), 15);
+        Due.row("33 one", Due.itemsOf(x, 1, 2, 1), 15);
         x.sheet(1, 1, 0);
         Due.is("33 no items", x.write(9, 1), 0);
         x.wipe(1);

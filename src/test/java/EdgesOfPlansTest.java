@@ -52,6 +52,16 @@ public final class EdgesOfPlansTest {
         x.set(1, 0);
         openIs("none told", x, 0, 1, 1);
         Due.is("none served by those told", x.served(9), 0);
+        x.undo(1);
+        openIs("nothing in the bag any more", x, 0, NONE, NONE);
+        x.type(1, 'c');
+        openIs("in the bag again", x, 0, 1, 1);
+        x.set(0, 0);
+        openIs("not even any more", x, 0, NONE, NONE);
+        x.worth(1, 3);
+        openIs("even again", x, 0, 1, 1);
+        x.set(2, 1);
+        openIs("left on the seat from now on", x, 0, NONE, NONE);
     }
 
     private static void behindDay9() {
@@ -129,6 +139,7 @@ public final class EdgesOfPlansTest {
         topIs("a Monday", Due.made("b09a", ""), 0, 1);
         topIs("an h", Due.made("g09h", ""), 7, 1);
         topIs("one whole one serves one", Due.made("b09c;b09c", ""), 2, 1);
+        topIs("a torn Monday would serve two", Due.made("b09a;c09a", ""), 0, 1);
         topIs("a whole one beside a torn one serves the third", Due.made("b09c;b09c;b09c", "C"), 2, 3);
         AfternoonChange x = Due.made("b09c", "");
         topIs("the bag is told anew", x, 2, 1);

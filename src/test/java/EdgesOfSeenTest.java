@@ -10,6 +10,7 @@ public final class EdgesOfSeenTest {
 
     public static void main(String[] args) {
         eightAtMost();
+        behindADay();
         none();
         thatThereIsNot();
         hadAtFirst();
@@ -54,6 +55,26 @@ public final class EdgesOfSeenTest {
         }
         Due.is("the eighth counts", x.seen(9, 7, 7), 8);
         Due.is("it did not come out so", x.was(), 0);
+    }
+
+    private static void behindADay() {
+        Due.sentence("behind a DAY a RIDER (0 to 7) had an AFTERNOON");
+        // the first one gets his on day 7
+        AfternoonChange x = Due.made(SLOW, "a");
+        for (int day = 0; day < 10; day++) {
+            x.forget();
+            x.seen(day, 0, 6);
+            Due.is("a g behind " + day, x.was(), day < 7 ? 1023 : 1);
+            x.forget();
+            x.seen(day, 0, 7);
+            Due.is("an h behind " + day, x.was(), day < 7 ? 0 : 1022);
+        }
+        x.forget();
+        x.seen(6, 0, 6);
+        x.seen(7, 0, 7);
+        x.seen(0, 7, 0);
+        Due.is("three of three days", x.was(), 1022);
+        Due.is("three of three days, had", x.had(7) & 2, 2);
     }
 
     private static void none() {
@@ -150,6 +171,12 @@ public final class EdgesOfSeenTest {
         x = Due.made("b09b;b09c;b09c", "cc");
         Due.is("10, 1 and 9, 1 and 9", x.ask(9), 1);
         Due.is("all alike", Due.made("b09b;c09c", "").ask(9), 0);
+        x = Due.made("b09b;b09c", "c");
+        x.worth(1, 0);
+        x.worth(2, 9);
+        Due.is("10, 9 and 1: EVEN is 9, too", x.ask(0), 1);
+        x.worth(2, 1);
+        Due.is("10, 1 and 9: EVEN is 0, too", x.ask(0), 1);
     }
 
     private static void askNoneToo() {
@@ -213,6 +240,10 @@ public final class EdgesOfSeenTest {
         fractionIs(x, new int[] {16, 9, 0}, 0, 1);
         fractionIs(x, new int[] {4, 9, 1}, 1, 4);
         Due.is("CHANGES stay", x.count(6), 16 + 128);
+        x.undo(1);
+        fractionIs(x, new int[] {4, 9, 0}, 0, 1);
+        x.type(1, 'd');
+        fractionIs(x, new int[] {4, 9, 0}, 3, 16);
         x = Due.made("b01c;d12c;d23c;d34c;d45c;d56c;d67c;b79c", "c", 2, 1023, 0);
         // the last one gets it if stops 0 to 6 are closed, and 7 or 8 is open
         fractionIs(x, new int[] {8, 9, 7}, 3, 512);

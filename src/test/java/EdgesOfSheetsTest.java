@@ -449,7 +449,7 @@ public final class EdgesOfSheetsTest {
         Due.sentence("h is 17; h becomes 31 h and each of");
         Due.is("a new object's", new AfternoonChange().digest(), digestOf(0, 0, 0, 0, 0, 0, 32, 0, NONE, NONE,
             0, 0, NONE, NONE, 0, 0, NONE, NONE, 0, 0, NONE, NONE, NONE, NONE, NONE, 0, 0, NONE, 0, 0, 0, 0, 1023, 0, 9));
-        Due.is("with faults", Due.made("b", "bi").digest(), digestOf(0, 0, 1, 2, 0, 0, 32, 0, 1, 1,
+        Due.is("with faults", Due.made("b", "bci").digest(), digestOf(0, 0, 1, 3, 0, 0, 32, 0, 1, 2,
             0, 0, NONE, NONE, 0, 0, NONE, NONE, 0, 0, NONE, NONE, NONE, NONE, NONE, 0, 0, NONE, 0, 0, 0, 0, 1023, 0, 9));
     }
 
@@ -496,14 +496,20 @@ public final class EdgesOfSheetsTest {
     private static void digestOfEach() {
         Due.sentence("of RIDERS rider() 0 to 3, has(0, it), has(9, it), torn(9, it), gets(), open() 0, 1, had(), "
             + "maybe(5, 3, it), above, below; of DAYS 0, 4, 9 served(), bag(it, NONE), bag(it, 0), ask()");
-        String[] riders = {"g09h;h09g;g09f;f09e;e09d;d09c;c09b;b09a", "b09c;d09c;e09f", "b04c;c59d;d09b;h09h", "a00a"};
-        String[] bags = {"a", "CfH", "dB", ""};
+        // the first one's changes come one a day, so that no two of days 0 to 7 are alike
+        String[] riders = {"g09h;h09g;g09f;f09e;e09d;d09c;c09b;b09a", "b09c;d09c;e09f", "b04c;c59d;d69b;h39g", "a00a"};
+        String[] bags = {"a", "CfH", "dBg", ""};
         for (int i = 0; i < 4; i++) {
-            AfternoonChange x = Due.made(riders[i], bags[i], 2, 33, i);
+            AfternoonChange x = Due.made(riders[i], bags[i], 2, i == 0 ? 32 : 33, i);
             x.seen(0, 0, 1);
             int n = x.count(0);
             Due.is("digest of " + riders[i], x.digest(), digestOf(eachOf(x, n)));
         }
+        Due.sentence("depot(7, 9, 0 and 1)");
+        // one b is among 9 lots by 7; none among 8, two among 10, and two among 9 by 6 or by 8
+        AfternoonChange x = Due.made("c09b;c09b", "");
+        Due.is("the depot", x.depot(7, 9, 0), 1);
+        Due.is("digest of it", x.digest(), digestOf(eachOf(x, 2)));
     }
 
     private static void digestWithout() {

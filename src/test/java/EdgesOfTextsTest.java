@@ -352,6 +352,14 @@ public final class EdgesOfTextsTest {
         Due.is("none", x.count(0), 0);
         Due.is("a first byte", x.type(0, 'x'), 1);
         Due.is("one with a fault", x.wipe(0), 1);
+        x = Due.made("b09c;b09c", "cc", 2, 32, 3);
+        x.wipe(0);
+        Due.type(x, 0, "b00c;b67c");
+        Due.is("those who were there change no more", x.count(4), 0);
+        Due.is("nor do they leave theirs", x.has(9, 0), 1);
+        x.wipe(0);
+        Due.type(x, 0, "b00c;b59c");
+        Due.is("but those who are there", x.count(4), 1);
     }
 
     private static void undo() {

@@ -26,6 +26,8 @@ public final class AfternoonChange {
     private static final int MOST_SEEN = 8, SIXTEENTHS = 16;
     private static final int SHEETS = 4, FORMS = 3, SHEET_ROOM = 60;
     private static final int NULL = 1, INDEX = 2, CAST = 3, STORE = 4, SIZE = 5;
+    private static final int LEAST_INT = 1 << 31;
+    private static final long LEAST_LONG = 1L << 63;
 
     private final Text[] texts = {new Text(RIDERS_TEXT), new Text(BAG_TEXT)};
     private final Told told = new Told();
@@ -340,7 +342,7 @@ public final class AfternoonChange {
     public long maybe(int c, int day, int rider, int what) {
         if (isOutside(c, SIXTEENTHS + 1) || isOutside(day, DAYS)
                 || isOutside(rider, told.riders) || isOutside(what, 2)) {
-            return Long.MIN_VALUE - BAD;
+            return LEAST_LONG - BAD;
         }
         Arrays.fill(setsBySize, 0);
         for (int stops = 0; stops < STOP_SETS; stops++) {
@@ -409,7 +411,7 @@ public final class AfternoonChange {
     }
 
     public int get(int s, int form, int i) {
-        return refusalOfItem(s, form, i) != 0 ? Integer.MIN_VALUE : sheets[s].items[i];
+        return refusalOfItem(s, form, i) != 0 ? LEAST_INT : sheets[s].items[i];
     }
 
     public int copy(int s, int i, int t, int j, int n) {
